@@ -1,0 +1,74 @@
+/** Counts answers that are not due, and feeds texts. */
+final class Due {
+    private static int wrong;
+    private static int asked;
+    private static String about = "";
+
+    private Due() {
+    }
+
+    static void about(String what) {
+        about = what;
+    }
+
+    static void same(String call, long got, long want) {
+        asked++;
+        if (got != want) {
+            wrong++;
+            if (wrong <= 50) {
+                System.out.println(about + ": " + call + " answered " + got + ", due is " + want);
+            }
+        }
+    }
+
+    static void same(String call, boolean got, boolean want) {
+        same(call, got ? 1 : 0, want ? 1 : 0);
+    }
+
+    static int wrong() {
+        return wrong;
+    }
+
+    static void end() {
+        System.out.println(wrong == 0 ? asked + " answers are as due" : wrong + " answers are not as due");
+        if (wrong != 0) {
+            System.exit(1);
+        }
+    }
+
+    /** Five ints for each twenty bytes of a text, the last ones filled up with blanks. */
+    static int[] ints(String text) {
+        int[] ints = new int[(text.length() + 19) / 20 * 5];
+        for (int i = 0; i < ints.length * 4; i++) {
+            int b = i < text.length() ? text.charAt(i) & 255 : ' ';
+            ints[i / 4] = ints[i / 4] << 8 | b;
+        }
+        return ints;
+    }
+
+    static int rest(String text) {
+        return (20 - text.length() % 20) % 20;
+    }
+
+    static void feed(TentativeDesk desk, String text) {
+        int[] f = ints(text);
+        for (int i = 0; i < f.length; i += 5) {
+            desk.feed(f[i], f[i + 1], f[i + 2], f[i + 3], f[i + 4]);
+        }
+        desk.back(rest(text));
+    }
+
+    static TentativeDesk told(String text) {
+        TentativeDesk desk = new TentativeDesk();
+        feed(desk, text);
+        same("read() of " + text, desk.read(), 0);
+        return desk;
+    }
+
+    static void fault(String text, int why, int at) {
+        TentativeDesk desk = new TentativeDesk();
+        feed(desk, text);
+        same("read() of " + text, desk.read(), why);
+        same("place() of " + text, desk.place(), at);
+    }
+}
