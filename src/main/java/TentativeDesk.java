@@ -960,8 +960,12 @@ public final class TentativeDesk {
             for (int i = 0; i <= Tokens.MOST && goesOn && fault == 0; i++) {
                 int kind = tokens.kind();
                 if (unitIsDue && kind == '(') {
+                    if (nested >= MOST_NESTED) {
+                        fail(ROOM);
+                    }
                     nested++;
-                    openNest(nested);
+                    putOff(kind);
+                    take(kind);
                 } else if (unitIsDue) {
                     addUnit(kind);
                     take(isValue(kind) ? kind : Tokens.NAME);
@@ -974,6 +978,7 @@ public final class TentativeDesk {
                 } else if (nested > 0) {
                     nested--;
                     closeNest();
+                    take(')');
                 } else {
                     goesOn = false;
                 }
@@ -982,21 +987,11 @@ public final class TentativeDesk {
             told.upTo[part] = told.steps;
         }
 
-        private void openNest(int nested) {
-            if (nested > MOST_NESTED) {
-                fail(ROOM);
-                return;
-            }
-            putOff('(');
-            take('(');
-        }
-
         private void closeNest() {
             letOut(1);
             if (manyWaiting > 0) {
                 manyWaiting--;
             }
-            take(')');
         }
 
         private void addUnit(int kind) {

@@ -16,7 +16,8 @@ final class Due {
         if (got != want) {
             wrong++;
             if (wrong <= 50) {
-                System.out.println(about + ": " + call + " answered " + got + ", due is " + want);
+                String told = call.length() > 300 ? call.substring(0, 300) + " .." : call;
+                System.out.println(about + ": " + told + " answered " + got + ", due is " + want);
             }
         }
     }
