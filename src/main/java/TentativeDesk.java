@@ -49,9 +49,9 @@ public final class TentativeDesk {
     public TentativeDesk() {
         tapeSize = 0;
         faultPlace = NONE;
-        reader = new Reader();
         text = new Told();
         spare = new Told();
+        reader = new Reader(spare);
         now = new Going();
         past = new Past();
         slots = new Going[SLOTS];
@@ -842,8 +842,8 @@ public final class TentativeDesk {
         private int laterFault;
         private int laterFaultAt;
 
-        Reader() {
-            told = new Told();
+        Reader(Told first) {
+            told = first;
             faultAt = NONE;
         }
 

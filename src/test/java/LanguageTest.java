@@ -143,16 +143,16 @@ public final class LanguageTest {
         String text = "copies 5;cell a 1;cell b 2;form f needs a<9*(1+x) sets a a+x else b b/x;";
         int[] bytes = Due.ints(text);
         long kept = 0;
-        long most = 0;
+        long least = Long.MAX_VALUE;
         for (int run = 0; run < 20; run++) {
             long ahead = bean.getCurrentThreadAllocatedBytes();
             TentativeDesk desk = new TentativeDesk();
             kept = bean.getCurrentThreadAllocatedBytes() - ahead;
             callAll(desk, bytes);
-            most = bean.getCurrentThreadAllocatedBytes() - ahead - kept;
+            least = Math.min(least, bean.getCurrentThreadAllocatedBytes() - ahead - kept);
         }
-        due("one object has too many bytes: " + kept, kept > 120_000);
-        due("calls make objects: " + most + " bytes", most > 0);
+        due("one object has too many bytes: " + kept, kept > 100_000);
+        due("calls make objects: " + least + " bytes", least > 0);
     }
 
     private static void callAll(TentativeDesk d, int[] f) {

@@ -29,6 +29,7 @@ public final class PromiseTest {
         promise4Later();
         promise4Takes();
         promise4Order();
+        promise4Often();
         promise5();
         promise6();
         promise7And8();
@@ -71,6 +72,9 @@ public final class PromiseTest {
             due("count(" + what + ")", d.count(what), what == 10 ? 1 : 0);
         }
         due("place()", d.place(), NONE);
+        due("meet(2, 1)", d.meet(2, 1), 0);
+        due("count(12)", d.count(12), 2);
+        due("count(13)", d.count(13), 2);
         Due.about("promise 2");
         for (int i = 1; i <= 100; i++) {
             due("feed", d.feed(0x20202020, 0x09090909, 0x0a0a0a0a, 0x0d0d0d0d, 0x20202020), 20 * i);
@@ -318,6 +322,39 @@ public final class PromiseTest {
         due("cell 1", d.cell(1, 1, false), 1);
         due("make", d.make(NONE, 1, 0, 0), 1);
         due("cell 0", d.cell(1, 0, false), 2);
+    }
+
+    /** A text is read as if none had been read ahead of it. */
+    private static void promise4Often() {
+        Due.about("promise 4, text after text");
+        TentativeDesk d = new TentativeDesk();
+        for (int i = 0; i < 6; i++) {
+            Due.feed(d, "copies 5;primary 4;seed 77;cell a 1;cell b 2;form f needs 0<1 sets a 1" + repeat("+1", 150)
+                + " else b 1;");
+            due("read()", d.read(), 0);
+            due("count(0)", d.count(0), 5);
+            due("count(5)", d.count(5), 4);
+            due("make", d.make(NONE, 4, 0, 0), 0);
+            due("cell", d.cell(4, 0, true), 151);
+        }
+        for (int i = 0; i < 3; i++) {
+            due("read() of nothing", d.read(), 0);
+            int[] fresh = {3, 0, 0, 0, 0, 0};
+            for (int what = 0; what < fresh.length; what++) {
+                due("count(" + what + ")", d.count(what), fresh[what]);
+            }
+            for (int m = 0; m < 5; m++) {
+                due("chance(1)", d.chance(1), m + 1);
+                due("shut(1) by seed 0", d.shut(1), lot(3, 0, 2 * m));
+            }
+            Due.feed(d, "cell a 1;form f needs 0<1 sets a 1;");
+            due("read()", d.read(), 0);
+            due("place()", d.place(), NONE);
+            Due.feed(d, "cell f 1;form a needs 0<1 sets f 1;form g needs 1<0 sets f 1;");
+            due("read()", d.read(), 0);
+            due("make", d.make(NONE, 0, 1, 1), 0);
+            due("idle without else", d.outcome(0, 0), 2);
+        }
     }
 
     private static void promise5() {
@@ -819,6 +856,7 @@ public final class PromiseTest {
         due("copy(3, 0)", d.copy(3, 0), NONE);
         due("copy(-1, 0)", d.copy(-1, 0), NONE);
         due("copy(2, 7)", d.copy(2, 7), 1);
+        due("copy(1, 8)", d.copy(1, 8), 3);
         due("copy(2, 8)", d.copy(2, 8), 0);
         due("copy(2, 0)", d.copy(2, 0), 1);
         int[][] vectors = {{1, 0, 0}, {1, 4, 1}, {0, 0, 1}};
@@ -943,6 +981,24 @@ public final class PromiseTest {
         due("make at 1", d.make(NONE, 1, 0, 1), 4);
         due("would with what is known", d.would(0, 1), 1);
         due("meet", d.meet(0, 1), 1);
+        d = Due.told("primary 2;cell a 0;form f needs 0<1 sets a a+1;");
+        due("make at 1", d.make(NONE, 1, 0, 1), 0);
+        due("make at 2", d.make(NONE, 2, 0, 1), 1);
+        due("make at 2", d.make(NONE, 2, 0, 1), 2);
+        due("would(2, 1)", d.would(2, 1), 1);
+        due("would(1, 2)", d.would(1, 2), 0);
+        due("meet", d.meet(2, 1), 1);
+        due("log(1, 0)", d.log(1, 0), 1);
+        due("log(1, 2)", d.log(1, 2), 0);
+        due("would(1, 0)", d.would(1, 0), 0);
+        due("meet", d.meet(1, 0), 0);
+        due("make at 0", d.make(NONE, 0, 0, 1), 3);
+        due("meet", d.meet(1, 2), 0);
+        due("would(2, 0)", d.would(2, 0), 0);
+        due("would(0, 2)", d.would(0, 2), 0);
+        due("make at 1", d.make(NONE, 1, 0, 1), 4);
+        due("would(1, 0)", d.would(1, 0), 0);
+        due("would(0, 1)", d.would(0, 1), 1);
     }
 
     private static void promise28() {
@@ -1120,6 +1176,23 @@ public final class PromiseTest {
             due("make", d.make(NONE, 0, 3, 0), i);
         }
         due("FULL is not REFUSED", d.may(0, true), 1);
+        Due.about("promise 35, each ORIGIN");
+        for (int origin = 0; origin < 5; origin++) {
+            d = Due.told("copies 5;cell a 0;form f needs 0<1 sets a a+1;");
+            due("make", d.make(0, origin, 0, 1), 0);
+            due("ask", d.ask(1, origin, 0), 1);
+            due("promise", d.promise(0, 9) && d.promise(1, 6), true);
+            for (int session = 0; session < 2; session++) {
+                due("may ask", d.may(session, false), 1 << origin);
+                due("may make", d.may(session, true), 1 << origin);
+            }
+            due("ask", d.ask(0, origin, 0), 1);
+            for (int of = 0; of < 5; of++) {
+                due("of(0, " + of + ", true)", d.of(0, of, true), of == origin ? 1 : 0);
+                due("of(0, " + of + ", false)", d.of(0, of, false), of == origin ? 1 : 0);
+                due("of(1, " + of + ", true)", d.of(1, of, true), 0);
+            }
+        }
     }
 
     private static void promise36() {
@@ -1235,6 +1308,27 @@ public final class PromiseTest {
         due("alike, but not in the ORDER", d.alike(0, 1), 1);
         due("soon()", d.soon(), -2);
         due("year(60, 20)", d.year(60, 20), 0);
+        due("make at 0", d.make(NONE, 0, 0, 0), 1);
+        int soon = d.soon();
+        due("soon()", soon > 1, true);
+        due("year(soon, 1)", d.year(soon, 1), 1);
+        due("year(soon - 1, 1)", d.year(soon - 1, 1), 0);
+        due("chance", d.chance(soon), soon);
+        due("settled", isSettled(d), true);
+        soonAt(36, 2, 60);
+        soonAt(36, 3, 59);
+        soonAt(18, 1, -2);
+        soonAt(0, 3, -2);
+    }
+
+    private static void soonAt(int seed, int copy, int want) {
+        TentativeDesk d = Due.told("copies 5;seed " + seed + ";cell a 0;form f needs 0<1 sets a 1;");
+        due("make", d.make(NONE, copy, 0, 0), 0);
+        due("soon() of seed " + seed, d.soon(), want);
+        due("year(60, 1)", d.year(60, 1), want == -2 ? 0 : 1);
+        due("year(59, 1)", d.year(59, 1), want == 59 ? 1 : 0);
+        due("chance(60)", d.chance(60), 60);
+        due("settled", isSettled(d), want != -2);
     }
 
     private static boolean isSettled(TentativeDesk d) {
