@@ -26,8 +26,30 @@ final class Due {
         same(call, got ? 1 : 0, want ? 1 : 0);
     }
 
+    /** A due answer without a name: the line of the test tells which it is. */
+    static void is(long got, long want) {
+        if (got == want) {
+            asked++;
+        } else {
+            same("line " + line(), got, want);
+        }
+    }
+
+    static void is(boolean got, boolean want) {
+        is(got ? 1 : 0, want ? 1 : 0);
+    }
+
+    private static int line() {
+        return StackWalker.getInstance().walk(frames -> frames
+            .filter(f -> f.getClassName().endsWith("Test") && !f.getMethodName().equals("is")).findFirst().map(f -> f.getLineNumber()).orElse(0));
+    }
+
     static int wrong() {
         return wrong;
+    }
+
+    static int asked() {
+        return asked;
     }
 
     static void end() {
@@ -64,6 +86,25 @@ final class Due {
         feed(desk, text);
         same("read() of " + text, desk.read(), 0);
         return desk;
+    }
+
+
+    /** LOT by the document's words, in longs. */
+    static int lot(int n, int seed, int which) {
+        long h = seed;
+        for (int it : new int[] {223, which}) {
+            h = ((h ^ it) * 1103515245L + 12345L) & 0xffffffffL;
+            h = h ^ h / 32768;
+        }
+        return (int) (h / 2 % n);
+    }
+
+    static int giver(int copies, int seed, int m) {
+        return lot(copies, seed, 2 * m);
+    }
+
+    static int taker(int copies, int seed, int m) {
+        return (giver(copies, seed, m) + 1 + lot(copies - 1, seed, 2 * m + 1)) % copies;
     }
 
     static void fault(String text, int why, int at) {

@@ -1,0 +1,45 @@
+import java.lang.reflect.InvocationTargetException;
+import java.lang.reflect.Method;
+import java.util.ArrayList;
+import java.util.Arrays;
+import java.util.Comparator;
+import java.util.List;
+
+/** Runs the tests of a class that bear a remark, each on objects of its own. */
+final class Remarked {
+    private Remarked() {
+    }
+
+    static List<Method> of(Class<?> tests) {
+        List<Method> found = new ArrayList<>();
+        for (Method method : tests.getDeclaredMethods()) {
+            if (method.isAnnotationPresent(Remark.class)) {
+                method.setAccessible(true);
+                found.add(method);
+            }
+        }
+        found.sort(Comparator.comparing(Method::getName));
+        return found;
+    }
+
+    static void runAll(Class<?> tests) {
+        for (Method test : of(tests)) {
+            run(test);
+        }
+        Due.end();
+    }
+
+    static void run(Method test) {
+        Remark remark = test.getAnnotation(Remark.class);
+        Due.about(test.getName() + " " + Arrays.toString(remark.says()));
+        int asked = Due.asked();
+        try {
+            test.invoke(null);
+        } catch (InvocationTargetException e) {
+            Due.same("the test, which threw " + e.getCause() + " at " + e.getCause().getStackTrace()[0], 1, 0);
+        } catch (IllegalAccessException e) {
+            Due.same("the test, which could not be called", 1, 0);
+        }
+        Due.same("the test asks something", Due.asked() > asked, true);
+    }
+}
