@@ -132,6 +132,10 @@ public final class AnswerBoundsTest {
         is(d.alike(1, 2), 1);
         make(d, 1, 1);
         is(d.alike(0, 1), 0);
+        is(d.alike(1, 2), 0);
+        make(d, 2, 2);
+        is(d.alike(1, 2), 0);
+        is(d.undo(), true);
         is(d.meet(1, 2), 0);
         is(d.alike(1, 2), 1);
         is(d.meet(2, 0), 0);
@@ -323,6 +327,10 @@ public final class AnswerBoundsTest {
         is(d.log(1, 1), 5);
         is(d.setter(1, 1), 2);
         is(d.setter(0, 1), -2);
+        d = Due.told("cell a 1;cell b 2;form f needs 1<0 sets a 1 else b 2;");
+        makeAll(d, 1, 0);
+        is(d.setter(1, 0), -2);
+        is(d.setter(1, 1), 0);
     }
 
     @Remark(promise = 35, terms = "III", says = "MAY: whether an ask, a make of a SESSION at a copy would not be REFUSED now.")
@@ -388,6 +396,8 @@ public final class AnswerBoundsTest {
         make(d, 2, 2);
         is(d.meet(2, 3), 0);
         planIs(d, 6, 15);
+        is(d.meet(1, 3), 2);
+        planIs(d, 8, 15);
     }
 
     private static void planIs(TentativeDesk d, int givers, int takers) {
@@ -399,7 +409,7 @@ public final class AnswerBoundsTest {
     @Remark(promise = 12, terms = "III", says = {"CHANCE: MEETING number m (all by chance are counted, from 0 on):",
         "of a, LOT of how many copies there are of the SEED and 2 * m,"})
     static void promise12CountedFrom0() {
-        TentativeDesk d = Due.told("copies 4;seed 31;");
+        TentativeDesk d = Due.told(BUMP + "copies 4;seed 31;");
         metIs(d, 4, 31, 0);
         metIs(d, 4, 31, 1);
         is(d.meet(0, 1), 0);
@@ -413,8 +423,10 @@ public final class AnswerBoundsTest {
         metIs(d, 4, 31, 4);
         is(d.restore(0), true);
         metIs(d, 4, 31, 4);
-        is(d.soon(), 0);
+        make(d, 1, 0);
+        is(d.soon() > 0, true);
         is(d.year(60, 3), 3);
+        is(d.count(6), 5);
         metIs(d, 4, 31, 5);
         Due.feed(d, "copies 4;seed 31;");
         is(d.read(), 0);
@@ -600,11 +612,13 @@ public final class AnswerBoundsTest {
         is(d.cell(4, 5, false), 8);
         is(d.cell(4, 6, false), 0);
         is(d.cell(5, 5, false), 0);
-        Due.feed(d, "cell a 3;");
-        is(d.read(), 0);
-        is(d.cell(2, 0, false), 3);
-        is(d.cell(2, 1, false), 0);
-        is(d.cell(3, 0, false), 0);
+        for (int times = 0; times < 2; times++) {
+            Due.feed(d, "cell a 3;");
+            is(d.read(), 0);
+            is(d.cell(2, 0, false), 3);
+            is(d.cell(2, 1, false), 0);
+            is(d.cell(3, 0, false), 0);
+        }
     }
 
     @Remark(promise = 15, says = "The i-th WRITE of a copy's LOG; NONE: no such ones.")
@@ -728,6 +742,7 @@ public final class AnswerBoundsTest {
         TentativeDesk d = Due.told(HANG + "copies 4;");
         copyIs(d, 3, 0, 0, 0, 0, 0, 0, 0, 0, 0);
         makeAll(d, 3, 2, 1, 3, 2);
+        copyIs(d, 3, 4, 4, 0, 0, 0, 4, 4, 2, 2);
         makeAll(d, 0, 5);
         is(d.meet(0, 3), 4);
         copyIs(d, 3, 4, 5, 1, 4, 5, 5, 5, 2, 2);
@@ -964,6 +979,9 @@ public final class AnswerBoundsTest {
         makeAll(d, 3, 2);
         is(d.key(3, 0), 1);
         is(d.key(3, 1), 1);
+        makeAll(d, 3, 2);
+        is(d.key(3, 0), 1);
+        is(d.key(3, 1), 2);
         is(d.key(0, 0), -2);
         for (int bad : new int[] {-1, 4, 5, MIN, MAX}) {
             is(d.key(bad, 0), NONE);

@@ -56,6 +56,7 @@ public final class PromiseTest {
         promise38And39();
         promise40And41();
         promise42();
+        questionsChangeNothing();
         Due.end();
     }
 
@@ -1403,6 +1404,27 @@ public final class PromiseTest {
         due("read()", d.read(), 0);
         due("count(11)", d.count(11), 0);
         due("restore(1)", d.restore(1), false);
+    }
+
+    private static void questionsChangeNothing() {
+        Due.about("promises 5, 8, 14 to 39, 42");
+        for (int i = -1; i < 7; i++) {
+            int at = i;
+            Look.unchanged(Scene::busy, d -> {
+                for (int j = -1; j < 4; j++) {
+                    askAll(d, at, j);
+                }
+            });
+        }
+    }
+
+    private static void askAll(TentativeDesk d, int i, int j) {
+        int[] told = {d.place(), d.got(i), d.cell(j, i, true), d.cell(i, j, false), d.log(j, i), d.outcome(j, i),
+            d.write(i, j), d.with(i), d.copy(j, i), d.vector(i, j), d.session(i, j), d.of(i, j, true), d.of(i, j, false),
+            d.shut(i), d.lacks(i, j), d.would(i, j), d.would(j, i), d.differ(i, j), d.alike(i, j), d.hangs(j, i, 0),
+            d.hangs(j, i, 1), d.behind(j, 0, i), d.fork(i, j), d.key(i, j), d.share(i), d.setter(i, j), d.ahead(j, i, 1),
+            d.may(i, true), d.may(i, false), d.plan(i), d.clash(i), d.soon(), d.year(i, j), d.count(i)};
+        due("questions", told.length, 34);
     }
 
     private static void promise42() {

@@ -29,11 +29,11 @@ public final class TextBoundsTest {
         return d.feed(0x20202020, 0x20202020, 0x20202020, 0x20202020, 0x20202020);
     }
 
-    /** What an expression is worth, in a write with x, of STAMP 1, made at copy 1. */
+    /** What an expression is worth, in a write with x, of STAMP 1, made at copy 2. */
     private static int worth(String e, int x) {
         TentativeDesk d = Due.told("cell a 3;cell b 4;form f needs 0<1 sets b " + e + ";");
-        is(d.make(NONE, 1, 0, x), 0);
-        return d.cell(1, 1, false);
+        is(d.make(NONE, 2, 0, x), 0);
+        return d.cell(2, 1, false);
     }
 
     // The terms, I.
@@ -170,6 +170,9 @@ public final class TextBoundsTest {
         for (char c : ".,:>[]{}!?&|^%$#@~'\"\\_`ABXZ\u0000\u007f\u0080\u00b2\u00e1\u00ff".toCharArray()) {
             Due.fault("seed 1;" + c, 1, 7);
             Due.fault("seed " + c + ";", 1, 5);
+            Due.fault("seed 1" + c, 1, 6);
+            Due.fault(A + F + c + "1)<2 sets a 1;", 1, 22);
+            Due.fault(A + F + "(1" + c + "<2 sets a 1;", 1, 24);
         }
     }
 
@@ -184,6 +187,7 @@ public final class TextBoundsTest {
         }
         Due.fault("seed 1;", 0, NONE);
         Due.fault("seed 1;".repeat(133), 0, NONE);
+        is(Due.told("seed 1;".repeat(132) + "copies 5;").count(0), 5);
         Due.fault("1", 1, 0);
         Due.fault("seed 1;a", 1, 7);
     }
@@ -265,7 +269,7 @@ public final class TextBoundsTest {
         is(worth("5", 9), 5);
         is(worth("x", 9), 9);
         is(worth("stamp", 9), 1);
-        is(worth("origin", 9), 1);
+        is(worth("origin", 9), 2);
         is(worth("a", 9), 3);
         is(worth("(1+2)*3", 0), 9);
         is(worth("20-(3-2)", 0), 19);
@@ -474,6 +478,7 @@ public final class TextBoundsTest {
     @Remark(promise = 4, terms = "I", says = "one more of a sort than told (at its first TOKEN);")
     static void promise04OneMoreOfASort() {
         Due.fault(SIX_CELLS, 0, NONE);
+        Due.fault(SIX_CELLS.substring(0, 45) + "cell", 1, 49);
         Due.fault(SIX_CELLS + " \ncell g 1;", 2, 56);
         Due.fault(SIX_CELLS + "cell", 2, 54);
         Due.fault(SIX_CELLS + "cell a 1;", 2, 54);
@@ -640,8 +645,19 @@ public final class TextBoundsTest {
         is(d.cell(0, 1, false), 0);
         is(d.make(NONE, 0, 0, 0), 0);
         is(d.outcome(0, 0), 2);
-        is(d.chance(1), 1);
-        is(d.shut(0), Due.taker(3, 0, 0));
+        for (int times = 0; times < 4; times++) {
+            for (int m = 0; m < 5; m++) {
+                is(d.chance(1), m + 1);
+                is(d.shut(0), Due.taker(3, 0, m));
+            }
+            Due.feed(d, times == 3 ? "" : "copies 3;");
+            is(d.read(), 0);
+            is(d.count(0), 3);
+            is(d.count(1), 0);
+            is(d.count(2), 0);
+            is(d.count(5), 0);
+            is(d.cell(0, 0, false), 0);
+        }
     }
 
     @Remark(promise = 4, terms = "I", says = "nothing promised;")
@@ -710,6 +726,7 @@ public final class TextBoundsTest {
         is(d.make(NONE, 0, 0, 0), NONE);
         is(d.meet(0, 3), NONE);
         is(d.meet(0, 2), 0);
+        is(d.count(12), 2);
         Look.same(new TentativeDesk(), Due.told("copies 3;primary 0;seed 0;"));
         d = new TentativeDesk();
         is(d.chance(1), 1);

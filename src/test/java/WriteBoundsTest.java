@@ -189,6 +189,8 @@ public final class WriteBoundsTest {
         make(d, 0, 2);
         is(d.copy(0, 2), 2);
         is(d.copy(0, 1), 3);
+        is(d.copy(2, 2), 2);
+        is(d.count(4), 2);
     }
 
     @Remark(promise = 15, terms = "II",
@@ -762,6 +764,11 @@ public final class WriteBoundsTest {
                 is(d.promise(0, promises), true);
                 is(d.may(0, false) == 31, (promises & 3) == 0);
             }
+            is(d.make(1, origin, 0, 0), 3);
+            is(d.promise(1, 14), true);
+            is(d.may(1, false), 31);
+            is(d.promise(1, 1), true);
+            is(d.may(1, false), 1 << origin);
         }
     }
 
@@ -807,6 +814,10 @@ public final class WriteBoundsTest {
         seenIs(d, 0, 2, 3);
         is(d.of(3, 2, true), 0);
         is(d.of(2, 2, false), 0);
+        is(d.ask(1, 2, 0), 1);
+        is(d.of(1, 0, false), 0);
+        is(d.of(1, 1, false), 1);
+        is(d.of(1, 2, false), 4);
         is(d.make(3, 1, 0, 0), 5);
         seenIs(d, 0, 2, 3);
     }
@@ -838,6 +849,9 @@ public final class WriteBoundsTest {
             is(d.meet(origin, other) >= 0, true);
             is(d.make(0, other, 0, 0), 4);
             is(d.session(0, 1), 2);
+            is(d.make(1, other, 0, 0), 5);
+            is(d.promise(1, 7), true);
+            is(d.may(1, true), 31);
         }
     }
 
@@ -859,6 +873,9 @@ public final class WriteBoundsTest {
             make(d, origin, 2);
             is(d.make(0, origin, 0, 0), 3);
             is(d.session(0, 1), 2);
+            is(d.ask(1, other, 0), 1);
+            is(d.promise(1, 11), true);
+            is(d.may(1, true), 31);
         }
     }
 
