@@ -181,6 +181,11 @@ public final class AnswerBoundsTest {
         hang(d, 1, 30, 29, 31);
         hang(d, 1, 58, 1, 59);
         hang(d, 1, 59, 0, -2);
+        d = Due.told("cell a 0;cell b 0;cell c 0;cell d 0;cell e 0;cell f 0;form p needs 0<1 sets f 1;"
+            + "form q needs f=1 sets a 1;form r needs f<1 sets a 1;");
+        makeAll(d, 1, 0, 1, 2, 0, 1);
+        hang(d, 1, 0, 2, 1);
+        hang(d, 1, 3, 0, -2);
     }
 
     private static void hang(TentativeDesk d, int copy, int write, int many, int first) {
@@ -508,12 +513,27 @@ public final class AnswerBoundsTest {
         is(d.soon(), 0);
         is(d.chance(5), soon + 5);
         is(d.soon(), 0);
+        for (int primary = 0; primary < 5; primary++) {
+            TentativeDesk other = bump(5, primary);
+            make(other, 2, 0);
+            int behind = 0;
+            for (; behind < 60 && !isSettled(other); behind++) {
+                is(other.meet(Due.giver(5, 0, behind), Due.taker(5, 0, behind)), 0);
+            }
+            d = bump(5, primary);
+            make(d, 2, 0);
+            soonIs(d, behind);
+        }
     }
 
     /** Five copies, one write: all is settled behind so many meetings first. */
     private static void soonIs(int seed, int copy, int behind) {
         TentativeDesk d = Due.told(BUMP + "copies 5;seed " + seed + ";");
         make(d, copy, 0);
+        soonIs(d, behind);
+    }
+
+    private static void soonIs(TentativeDesk d, int behind) {
         is(d.soon(), behind > 60 ? -2 : behind);
         is(d.year(60, 1), behind > 60 ? 0 : 1);
         is(d.year(59, 1), behind > 59 ? 0 : 1);
@@ -551,7 +571,7 @@ public final class AnswerBoundsTest {
     }
 
     private static TentativeDesk yearDesk(int seed) {
-        TentativeDesk d = Due.told(BUMP + "copies 5;seed " + seed + ";");
+        TentativeDesk d = Due.told(BUMP + "copies 5;primary " + seed % 4 + ";seed " + seed + ";");
         is(d.chance(3), 3);
         make(d, 1, 0);
         return d;
@@ -696,6 +716,13 @@ public final class AnswerBoundsTest {
         is(d.meet(0, 1), 0);
         is(d.meet(1, 4), 0);
         writeIs(d, 3, 0, 0, 3, 3, 19, 16);
+        makeAll(d, 0, 0, 0);
+        makeAll(d, 2, 0);
+        is(d.meet(2, 0), 2);
+        is(d.meet(0, 4), 0);
+        is(d.copy(0, 3), 2);
+        writeIs(d, 0, 5, 3, 1, 1, 31, 31);
+        writeIs(d, 4, 0, 0, 4, 5, 17, 16);
     }
 
     private static void writeIs(TentativeDesk d, int write, int... due) {
@@ -750,6 +777,11 @@ public final class AnswerBoundsTest {
         makeAll(d, 2, 0);
         is(d.meet(2, 3), 4);
         copyIs(d, 3, 4, 6, 1, 8, 10, 6, 6, 0, 0);
+        makeAll(d, 1, 2, 1, 3);
+        is(d.copy(3, 7), 0);
+        is(d.copy(1, 7), 1);
+        is(d.copy(3, 8), 0);
+        is(d.copy(1, 8), 2);
         for (int bad : new int[] {-1, 9, 10, MIN, MAX}) {
             is(d.copy(3, bad), NONE);
         }
@@ -1215,6 +1247,24 @@ public final class AnswerBoundsTest {
         is(d.undo(), true);
         is(d.undo(), false);
         is(d.count(3), 2);
+        TentativeDesk held = Scene.told();
+        TentativeDesk plain = Scene.told();
+        for (TentativeDesk one : new TentativeDesk[] {held, plain}) {
+            is(one.make(NONE, 1, 0, 3), 0);
+            is(one.make(NONE, 1, 1, 4), 1);
+            is(one.make(NONE, 0, 2, 5), 2);
+            is(one.meet(1, 0), 0);
+            is(one.hold(1), true);
+        }
+        is(held.undo() && held.undo() && held.undo() && held.undo(), true);
+        is(held.make(NONE, 0, 3, 6), 0);
+        is(held.make(NONE, 0, 3, 7), 1);
+        is(held.make(NONE, 0, 0, 8), 2);
+        is(held.restore(1), true);
+        is(plain.restore(1), true);
+        Look.same(held, plain);
+        is(held.with(2), 5);
+        is(held.write(1, 3), 2);
     }
 
     @Remark(promise = 41, says = "false, and nothing happens: no such one, nothing is held.")
@@ -1263,6 +1313,26 @@ public final class AnswerBoundsTest {
         is(d.count(5), 0);
         is(d.count(12), 21);
         is(bump(1, 0).count(10), 1);
+        d = bump(3, 0);
+        make(d, 0, 0);
+        make(d, 0, 1);
+        is(d.count(14), 0);
+        is(d.meet(0, 1), 0);
+        is(d.count(14), 0);
+        make(d, 0, 2);
+        is(d.meet(0, 2), 0);
+        is(d.count(14), 2);
+        is(d.count(15), 2);
+        is(d.meet(0, 1), 0);
+        is(d.count(14), 3);
+        make(d, 1, 3);
+        is(d.count(17) + d.count(18), 0);
+        for (int session = 0; session < 4; session++) {
+            is(d.make(session, 2, 0, 0), 4 + session);
+            is(d.promise(session, 1), true);
+            is(d.ask(session, 0, 0), 0);
+            is(d.count(16), session + 1);
+        }
     }
 
     private static void countIs(TentativeDesk d, int... due) {

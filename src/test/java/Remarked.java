@@ -36,7 +36,8 @@ final class Remarked {
         try {
             test.invoke(null);
         } catch (InvocationTargetException e) {
-            Due.same("the test, which threw " + e.getCause() + " at " + e.getCause().getStackTrace()[0], 1, 0);
+            StackTraceElement[] at = e.getCause().getStackTrace();
+            Due.same("the test, which threw " + e.getCause() + (at.length > 0 ? " at " + at[0] : ""), 1, 0);
         } catch (IllegalAccessException e) {
             Due.same("the test, which could not be called", 1, 0);
         }

@@ -470,9 +470,13 @@ public final class TextBoundsTest {
         Due.fault(sum + "+1".repeat(193) + ";cell", 2, sum.length() + 387);
         Due.fault(sum + "+1".repeat(194) + ";", 2, sum.length() + 387);
         Due.fault(sum + " " + "+1".repeat(192) + "+(1);", 2, sum.length() + 388);
-        TentativeDesk d = Due.told(sum + "+1".repeat(193) + ";");
-        is(d.make(NONE, 0, 0, 0), 0);
-        is(d.cell(0, 0, false), 194);
+        TentativeDesk d = new TentativeDesk();
+        for (int times = 0; times < 4; times++) {
+            Due.feed(d, sum + "+1".repeat(193) + ";");
+            is(d.read(), 0);
+            is(d.make(NONE, 0, 0, 0), 0);
+            is(d.cell(0, 0, false), 194);
+        }
     }
 
     @Remark(promise = 4, terms = "I", says = "one more of a sort than told (at its first TOKEN);")
@@ -789,6 +793,18 @@ public final class TextBoundsTest {
         Due.feed(d, " ".repeat(2000));
         is(d.back(2000), 0);
         is(feedBlanks(d), 20);
+        is(d.read(), 0);
+        Due.feed(d, "cell");
+        is(d.back(1), 3);
+        is(d.read(), 1);
+        is(d.place(), 0);
+        Due.feed(d, "seed 12345");
+        is(d.back(1), 9);
+        is(d.read(), 1);
+        is(d.place(), 9);
+        Due.feed(d, "seed 1;;");
+        is(d.back(1), 7);
+        is(d.read(), 0);
     }
 
     @Remark(promise = 3, says = "NONE, and nothing goes, if it has not so many, or n is below 0.")

@@ -769,6 +769,10 @@ public final class WriteBoundsTest {
             is(d.may(1, false), 31);
             is(d.promise(1, 1), true);
             is(d.may(1, false), 1 << origin);
+            is(d.make(3, 0, 0, 0), 4);
+            is(d.promise(2, 15), true);
+            is(d.may(2, false), 31);
+            is(d.may(2, true), 31);
         }
     }
 
