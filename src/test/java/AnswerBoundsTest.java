@@ -453,9 +453,13 @@ public final class AnswerBoundsTest {
             TentativeDesk d = Due.told("copies " + copies + ";seed 8;");
             int pairs = 0;
             for (int m = 0; m < 120; m++) {
-                metIs(d, copies, 8, m);
-                is(d.shut(0) != d.shut(1), true);
-                pairs |= 1 << d.shut(0) * copies + d.shut(1);
+                is(d.chance(1), m + 1);
+                int b = d.shut(0);
+                int a = d.shut(1);
+                is(a, Due.giver(copies, 8, m));
+                is(b, Due.taker(copies, 8, m));
+                is(a != b, true);
+                pairs |= 1 << b * copies + a;
             }
             is(Integer.bitCount(pairs), copies * (copies - 1));
         }

@@ -1,12 +1,14 @@
-/** Long runs of calls, the same on the class and on the model; every answer must be alike. */
+/** Runs of up to 512 calls, the same on the class and on the model; every answer must be alike. */
 public final class ModelTest {
-    private static final int RUNS = 300;
-    private static final int CALLS = 300;
+    private static final int RUNS = 1500;
+    /** Behind so many calls, what is left of the 512 is for the last thing done and all that is asked then. */
+    private static final int CALLS = 320;
     private static long luck;
 
     private TentativeDesk desk;
     private Model model;
     private final StringBuilder told = new StringBuilder();
+    private int calls;
 
     private ModelTest() {
     }
@@ -68,6 +70,7 @@ public final class ModelTest {
     }
 
     private void same(String call, int want, int got) {
+        calls++;
         told.append(call).append(" = ").append(want).append('\n');
         Due.same(call, got, want);
     }
@@ -83,15 +86,18 @@ public final class ModelTest {
             readText();
         }
         int kind = luck(4);
-        for (int i = 0; i < CALLS && Due.wrong() == 0; i++) {
+        boolean asksMuch = luck(3) == 0;
+        while (calls < CALLS && Due.wrong() == 0) {
             doOne(kind);
-            for (int q = 0; q < 3; q++) {
+            for (int questions = luck(3); questions > 0; questions--) {
                 askOne();
             }
-            if (i % 25 == 0) {
+            if (asksMuch && calls < CALLS / 2 && luck(20) == 0) {
                 askMuch();
             }
         }
+        askMuch();
+        Due.same("calls of one object are 512 at most: " + calls, calls <= 512, true);
     }
 
     private void readText() {
