@@ -767,8 +767,25 @@ public final class AnswerBoundsTest {
         is(d.with(1), 0);
     }
 
-    @Remark(promise = 19, says = {"Of a copy: what 0 CLOCK, 1 how many WRITES, 2 KNOWS, 3 ROLLED, 4 DONE AGAIN, 5 how often OPEN, 6 how often"
-        + " shut, 7 MERGED ones of its LOG, 8 IDLE and STUCK ones.", "NONE for others."})
+    @Remark(promise = 19, says = "NONE for others.")
+    static void promise19NoneForOthers() {
+        TentativeDesk d = bump(4, 0);
+        for (int copy = 0; copy < 4; copy++) {
+            for (int bad : new int[] {-1, 9, 10, MIN, MAX}) {
+                is(d.copy(copy, bad), NONE);
+            }
+        }
+        for (int bad : new int[] {-1, 4, 5, MIN, MAX}) {
+            for (int what = -1; what < 10; what++) {
+                is(d.copy(bad, what), NONE);
+            }
+        }
+        is(d.copy(3, 0), 0);
+        is(d.copy(3, 8), 0);
+    }
+
+    @Remark(promise = 19, says = "Of a copy: what 0 CLOCK, 1 how many WRITES, 2 KNOWS, 3 ROLLED, 4 DONE AGAIN, 5 how often OPEN, 6 how often"
+        + " shut, 7 MERGED ones of its LOG, 8 IDLE and STUCK ones.")
     static void promise19Copy() {
         TentativeDesk d = Due.told(HANG + "copies 4;");
         copyIs(d, 3, 0, 0, 0, 0, 0, 0, 0, 0, 0);
@@ -786,13 +803,6 @@ public final class AnswerBoundsTest {
         is(d.copy(1, 7), 1);
         is(d.copy(3, 8), 0);
         is(d.copy(1, 8), 2);
-        for (int bad : new int[] {-1, 9, 10, MIN, MAX}) {
-            is(d.copy(3, bad), NONE);
-        }
-        for (int bad : new int[] {-1, 4, 5, MIN, MAX}) {
-            is(d.copy(bad, 0), NONE);
-            is(d.copy(bad, 7), NONE);
-        }
     }
 
     private static void copyIs(TentativeDesk d, int copy, int... due) {
@@ -819,7 +829,23 @@ public final class AnswerBoundsTest {
         is(d.vector(1, 0), NONE);
     }
 
-    @Remark(promise = 21, says = {"Of a SESSION: what 0 PROMISES, 1 how many were REFUSED.", "NONE for others."})
+    @Remark(promise = 21, says = "NONE for others.")
+    static void promise21NoneForOthers() {
+        TentativeDesk d = bump(3, 0);
+        for (int session = 0; session < 4; session++) {
+            for (int bad : new int[] {-1, 2, 3, MIN, MAX}) {
+                is(d.session(session, bad), NONE);
+            }
+        }
+        for (int bad : new int[] {-1, 4, 5, MIN, MAX}) {
+            is(d.session(bad, 0), NONE);
+            is(d.session(bad, 1), NONE);
+            is(d.session(bad, 2), NONE);
+        }
+        is(d.session(3, 1), 0);
+    }
+
+    @Remark(promise = 21, says = "Of a SESSION: what 0 PROMISES, 1 how many were REFUSED.")
     static void promise21Session() {
         TentativeDesk d = bump(3, 0);
         is(d.make(3, 1, 0, 0), 0);
@@ -830,13 +856,11 @@ public final class AnswerBoundsTest {
         is(d.session(3, 1), 2);
         is(d.session(0, 0), 0);
         is(d.session(0, 1), 0);
-        for (int bad : new int[] {-1, 2, 3, MIN, MAX}) {
-            is(d.session(3, bad), NONE);
-        }
-        for (int bad : new int[] {-1, 4, 5, MIN, MAX}) {
-            is(d.session(bad, 0), NONE);
-            is(d.session(bad, 1), NONE);
-        }
+        is(d.undo(), true);
+        is(d.session(3, 1), 1);
+        is(d.promise(3, 15), true);
+        is(d.session(3, 0), 15);
+        is(d.session(3, 1), 1);
     }
 
     @Remark(promise = 22, says = "Of a SESSION: SEEN (own false), OWN (true) of an ORIGIN; NONE: no such ones.")
@@ -1109,9 +1133,21 @@ public final class AnswerBoundsTest {
         }
     }
 
-    @Remark(promise = 36, says = {"PLAN: what 0 how many MEETINGS in all, 1 the copies that meet the PRIMARY (bits), 2 the copies that it meets then"
-        + " (bits).", "NONE for others."})
-    static void promise36PlanNoneForOthers() {
+    @Remark(promise = 36, says = "NONE for others.")
+    static void promise36NoneForOthers() {
+        TentativeDesk d = bump(3, 0);
+        for (int times = 0; times < 2; times++) {
+            for (int bad : new int[] {-1, 3, 4, MIN, MAX}) {
+                is(d.plan(bad), NONE);
+            }
+            is(d.plan(0), 3 * times);
+            make(d, 2, times);
+        }
+    }
+
+    @Remark(promise = 36, says = "PLAN: what 0 how many MEETINGS in all, 1 the copies that meet the PRIMARY (bits), 2 the copies that it meets then"
+        + " (bits).")
+    static void promise36PlanOfNone() {
         TentativeDesk d = bump(3, 0);
         for (int what = 0; what < 3; what++) {
             is(d.plan(what), 0);
@@ -1120,9 +1156,6 @@ public final class AnswerBoundsTest {
         is(d.plan(0), 3);
         is(d.plan(1), 4);
         is(d.plan(2), 6);
-        for (int bad : new int[] {-1, 3, 4, MIN, MAX}) {
-            is(d.plan(bad), NONE);
-        }
         is(d.lead(2), true);
         is(d.plan(0), 2);
         is(d.plan(1), 0);

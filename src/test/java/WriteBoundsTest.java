@@ -512,10 +512,36 @@ public final class WriteBoundsTest {
         is(d.copy(3, 2), 2);
     }
 
-    @Remark(promise = 10, terms = "II", says = {"ROLLED of b: more by as many as there were in its LOG from the first place on"
-        + " at which it is another one then (the shorter one's end, too);",
-        "DONE AGAIN: by as many as there are from that place on then."})
-    static void promise10RolledAndDoneAgain() {
+    @Remark(promise = 19, terms = "II", says = "DONE AGAIN: by as many as there are from that place on then.")
+    static void promise19DoneAgain() {
+        TentativeDesk d = bump(3, 2);
+        is(d.meet(0, 1), 0);
+        is(d.copy(1, 4), 0);
+        make(d, 0, 0);
+        is(d.meet(0, 1), 0);
+        is(d.copy(1, 4), 1);
+        is(d.meet(0, 1), 0);
+        is(d.copy(1, 4), 1);
+        make(d, 1, 1);
+        is(d.meet(0, 1), 0);
+        is(d.copy(1, 4), 1);
+        make(d, 0, 2);
+        make(d, 0, 3);
+        is(d.meet(0, 1), 1);
+        is(d.copy(1, 4), 4);
+        is(d.copy(0, 4), 0);
+        is(d.meet(1, 2), 0);
+        is(d.copy(2, 4), 4);
+        is(d.meet(2, 1), 0);
+        is(d.copy(1, 4), 4);
+        is(d.copy(1, 2), 4);
+        is(d.meet(2, 0), 1);
+        is(d.copy(0, 4), 2);
+    }
+
+    @Remark(promise = 10, terms = "II", says = "ROLLED of b: more by as many as there were in its LOG from the first place on"
+        + " at which it is another one then (the shorter one's end, too);")
+    static void promise10Rolled() {
         TentativeDesk d = bump(3, 0);
         rolls(d, 1, 2, 0, 0);
         make(d, 1, 0);
@@ -717,19 +743,38 @@ public final class WriteBoundsTest {
         is(d.make(-2, 0, 0, 0), NONE);
     }
 
-    @Remark(promise = 21, terms = "II", says = {"each has PROMISES (bits: 1 its reads see its WRITES, 2 its reads do not go"
-        + " back, 4 its WRITES come behind what it read, 8 its WRITES come behind one another; 0 at first),",
-        "SEEN and OWN: VECTORS of 0 at first."})
-    static void promise21AtFirst() {
-        TentativeDesk d = bump(5, 0);
+    @Remark(promise = 21, terms = "II", says = "each has PROMISES (bits: 1 its reads see its WRITES, 2 its reads do not go"
+        + " back, 4 its WRITES come behind what it read, 8 its WRITES come behind one another; 0 at first),")
+    static void promise21NothingPromisedAtFirst() {
+        TentativeDesk d = bump(3, 0);
         for (int session = 0; session < 4; session++) {
             is(d.session(session, 0), 0);
-            is(d.session(session, 1), 0);
+            is(d.promise(session, 0), false);
+            is(d.make(session, 2, 0, 0), 2 * session);
+            make(d, 1, 2 * session + 1);
+            is(d.ask(session, 1, 0), 1);
+            is(d.ask(session, 0, 0), 1);
+            is(d.may(session, false), 7);
+            is(d.may(session, true), 7);
+        }
+        int[] asks = {7, 4, 2, 0, 7, 4, 2, 0, 7, 4, 2, 0, 7, 4, 2, 0};
+        int[] makes = {7, 7, 7, 7, 2, 2, 2, 2, 4, 4, 4, 4, 0, 0, 0, 0};
+        for (int promises = 1; promises < 16; promises++) {
+            is(d.promise(3, promises), true);
+            is(d.may(3, false), asks[promises]);
+            is(d.may(3, true), makes[promises]);
+            is(d.may(2, false), 7);
+        }
+    }
+
+    @Remark(promise = 22, terms = "II", says = "SEEN and OWN: VECTORS of 0 at first.")
+    static void promise22SeenAndOwnAtFirst() {
+        TentativeDesk d = bump(5, 0);
+        for (int session = 0; session < 4; session++) {
             for (int origin = 0; origin < 5; origin++) {
                 is(d.of(session, origin, false), 0);
                 is(d.of(session, origin, true), 0);
             }
-            is(d.promise(session, 0), false);
         }
         is(d.promise(1, 15), true);
         for (int copy = 0; copy < 5; copy++) {
@@ -1128,9 +1173,8 @@ public final class WriteBoundsTest {
         is(d.count(12), 0);
     }
 
-    @Remark(promise = 11, says = {"Another copy is the PRIMARY: true;",
-        "false, and nothing happens: it is, it KNOWS not all of the ORDER, no such one."})
-    static void promise11Lead() {
+    @Remark(promise = 11, says = "false, and nothing happens: it is, it KNOWS not all of the ORDER, no such one.")
+    static void promise11NothingHappens() {
         Look.unchanged(Scene::busy, d -> {
             is(d.lead(0), false);
             is(d.lead(1), false);
@@ -1140,9 +1184,7 @@ public final class WriteBoundsTest {
             is(d.lead(MIN), false);
             is(d.lead(MAX), false);
         });
-        TentativeDesk d = bump(5, 0);
-        is(d.lead(4), true);
-        is(d.count(5), 4);
+        TentativeDesk d = bump(5, 4);
         is(d.lead(4), false);
         is(d.lead(5), false);
         make(d, 4, 0);
@@ -1151,12 +1193,38 @@ public final class WriteBoundsTest {
         make(d, 4, 2);
         is(d.copy(2, 2), 2);
         is(d.lead(2), false);
+        is(d.lead(3), false);
+        is(d.count(5), 4);
         is(d.meet(4, 2), 0);
-        make(d, 2, 3);
+        is(d.lead(2), true);
+        is(d.lead(2), false);
+    }
+
+    @Remark(promise = 11, says = "Another copy is the PRIMARY: true;")
+    static void promise11Lead() {
+        TentativeDesk d = bump(5, 0);
+        is(d.lead(4), true);
+        is(d.count(5), 4);
+        is(d.lead(1), true);
+        is(d.lead(0), true);
+        is(d.count(5), 0);
+        is(d.count(9), 3);
+        make(d, 0, 0);
+        make(d, 0, 1);
+        is(d.meet(0, 2), 0);
+        make(d, 2, 2);
         is(d.lead(2), true);
         is(d.count(5), 2);
+        is(d.count(4), 2);
+        is(d.copy(2, 2), 2);
+        make(d, 0, 3);
+        is(d.count(4), 2);
+        make(d, 2, 4);
+        is(d.count(4), 4);
+        is(d.undo() && d.undo() && d.undo(), true);
+        is(d.count(5), 0);
+        make(d, 0, 3);
         is(d.count(4), 3);
-        is(d.copy(2, 2), 3);
     }
 
     @Remark(promise = 12, says = "n MEETINGS by CHANCE (0 .. 60; 0 is no thing done): how many there were of these in all;")
