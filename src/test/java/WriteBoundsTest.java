@@ -1345,5 +1345,12 @@ public final class WriteBoundsTest {
         is(d.count(9), 1);
         is(d.undo(), true);
         is(d.undo(), false);
+        Look.unchanged(e -> {
+            Scene.busy(e);
+            is(e.hold(2) && e.restore(2), true);
+        }, e -> {
+            is(e.undo(), false);
+            is(e.undo(), false);
+        });
     }
 }
