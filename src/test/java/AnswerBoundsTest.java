@@ -16,7 +16,7 @@ public final class AnswerBoundsTest {
     }
 
     public static void main(String[] args) {
-        Remarked.runAll(AnswerBoundsTest.class);
+        Remarked.runAll(AnswerBoundsTest.class, args);
     }
 
     private static void is(long got, long want) {

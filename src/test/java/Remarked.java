@@ -22,10 +22,17 @@ final class Remarked {
         return found;
     }
 
-    static void runAll(Class<?> tests) {
+    /** Runs all, or those alone whose names begin as the first argument tells; there must be one. */
+    static void runAll(Class<?> tests, String[] args) {
+        String begin = args.length > 0 ? args[0] : "";
+        int ran = 0;
         for (Method test : of(tests)) {
-            run(test);
+            if (test.getName().startsWith(begin)) {
+                run(test);
+                ran++;
+            }
         }
+        Due.same("a test whose name begins with '" + begin + "'", ran > 0, true);
         Due.end();
     }
 

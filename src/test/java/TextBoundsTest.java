@@ -14,7 +14,7 @@ public final class TextBoundsTest {
     }
 
     public static void main(String[] args) {
-        Remarked.runAll(TextBoundsTest.class);
+        Remarked.runAll(TextBoundsTest.class, args);
     }
 
     private static void is(long got, long want) {

@@ -11,7 +11,7 @@ public final class WriteBoundsTest {
     }
 
     public static void main(String[] args) {
-        Remarked.runAll(WriteBoundsTest.class);
+        Remarked.runAll(WriteBoundsTest.class, args);
     }
 
     private static void is(long got, long want) {
